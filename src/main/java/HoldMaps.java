@@ -87,15 +87,15 @@ public final class HoldMaps {
         int keyValue = heap.things[key].value;
         int mark = table.markOf(key, keyValue);
         int at = table.find(mark);
-        if (at == NONE && table.isFull()) {
+        Entry entry = table.entryAt(at);
+        if (entry == null && table.isFull()) {
             throw new IllegalStateException("the map is full");
         }
         table.tick();
-        if (at == NONE) {
+        if (entry == null) {
             table.add(new Entry(table.keyOf(key, keyValue), mark, value));
             return NONE;
         }
-        Entry entry = table.entryAt(at);
         int before = entry.value;
         entry.value = value;
         table.use(at);
@@ -109,11 +109,10 @@ public final class HoldMaps {
         Table table = tables[map];
         table.tick();
         int at = table.find(table.markOf(key, heap.things[key].value));
-        if (at == NONE) {
-            return NONE;
+        int found = table.valueAt(at);
+        if (at != NONE) {
+            table.use(at);
         }
-        int found = table.entryAt(at).value;
-        table.use(at);
         return found;
     }
 
@@ -123,11 +122,10 @@ public final class HoldMaps {
         }
         Table table = tables[map];
         int at = table.find(table.markOf(key, heap.things[key].value));
-        if (at == NONE) {
-            return NONE;
+        int found = table.valueAt(at);
+        if (at != NONE) {
+            table.dropAt(at);
         }
-        int found = table.entryAt(at).value;
-        table.dropAt(at);
         return found;
     }
 
@@ -139,11 +137,11 @@ public final class HoldMaps {
         if (!isMap(map) || what < 0 || what > 1) {
             throw new NoSuchElementException("no such map or part of an entry");
         }
-        Entry entry = tables[map].entryAt(k);
-        if (entry == null) {
+        int found = what == 0 ? tables[map].keyAt(k) : tables[map].valueAt(k);
+        if (found == NONE) {
             throw new NoSuchElementException("no such entry");
         }
-        return what == 0 ? entry.key : entry.value;
+        return found;
     }
 
     public void walk(int map) throws IllegalArgumentException {
@@ -164,12 +162,12 @@ public final class HoldMaps {
         if (table.isBroken) {
             throw new IllegalStateException("the map was changed since the walk began");
         }
-        Entry next = table.entryAt(table.walked);
-        if (next == null) {
+        int next = table.keyAt(table.walked);
+        if (next == NONE) {
             throw new NoSuchElementException("the walk is at its end");
         }
         table.walked++;
-        return next.key;
+        return next;
     }
 
     public int collect(int pressure) throws IllegalArgumentException {
@@ -222,13 +220,13 @@ public final class HoldMaps {
 
     private void holdKeys(Table table) {
         for (int k = 0; k < table.length(); k++) {
-            heap.hold(table.entryAt(k).key);
+            heap.hold(table.keyAt(k));
         }
     }
 
     private void holdValues(Table table) {
         for (int k = 0; k < table.length(); k++) {
-            heap.hold(table.entryAt(k).value);
+            heap.hold(table.valueAt(k));
         }
     }
 
@@ -238,10 +236,10 @@ public final class HoldMaps {
         int lastUse = 0;
         for (int i = 0; i < entries; i++) {
             int at = soft.usedFirstAfter(lastUse);
-            if (at == NONE) {
+            Entry entry = soft.entryAt(at);
+            if (entry == null) {
                 return;
             }
-            Entry entry = soft.entryAt(at);
             lastUse = entry.use;
             if (!heap.isHeld(entry.value) && soft.time - entry.use >= patience) {
                 soft.dropAt(at);
@@ -254,7 +252,7 @@ public final class HoldMaps {
     /** From the end on, so that the entries not yet looked at stay where they are. */
     private void dropWeakEntries() {
         for (int k = weak.length() - 1; k >= 0; k--) {
-            if (!heap.isHeld(weak.entryAt(k).key)) {
+            if (!heap.isHeld(weak.keyAt(k))) {
                 weak.dropAt(k);
             }
         }
@@ -383,9 +381,21 @@ public final class HoldMaps {
 
         abstract void dropAt(int k);
 
+        /** NONE when there is none, and so with valueAt(). */
+        int keyAt(int k) {
+            Entry entry = entryAt(k);
+            return entry == null ? NONE : entry.key;
+        }
+
+        int valueAt(int k) {
+            Entry entry = entryAt(k);
+            return entry == null ? NONE : entry.value;
+        }
+
         int find(int mark) {
             for (int k = 0; k < length(); k++) {
-                if (entryAt(k).mark == mark) {
+                Entry entry = entryAt(k);
+                if (entry != null && entry.mark == mark) {
                     return k;
                 }
             }
@@ -495,7 +505,10 @@ public final class HoldMaps {
         }
 
         void use(int k) {
-            row.get(k).use = time;
+            Entry entry = entryAt(k);
+            if (entry != null) {
+                entry.use = time;
+            }
         }
 
         /** No two entries have one use, for each put or get has a TIME of its own. */
@@ -572,7 +585,7 @@ public final class HoldMaps {
             return (7 * entry.key) % SLOTS;
         }
 
-        /** A search ends at a free slot, so none may stay between an entry and its first slot. */
+        /** find() could do without, but the row shows in which slots the entries lie. */
         private void closeUp(int gone) {
             int free = gone;
             for (int i = 1; i < SLOTS; i++) {
@@ -623,7 +636,7 @@ public final class HoldMaps {
         }
 
         void use(int k) {
-            if (k < row.size() - 1) {
+            if (k >= 0 && k < row.size() - 1) {
                 Entry entry = row.get(k);
                 dropAt(k);
                 append(entry);

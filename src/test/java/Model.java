@@ -139,8 +139,7 @@ final class Model {
 
     private Pair find(int map, Thing key) {
         for (Pair pair : row(map)) {
-            boolean same = map == 2 ? pair.key == key : map == 3 ? pair.place == key.value : pair.key.value == key.value;
-            if (same) {
+            if (map == 2 ? pair.key == key : pair.place == key.value) {
                 return pair;
             }
         }

@@ -11,6 +11,7 @@ public final class Promise12CollectTest {
         weakKeys();
         weakValueThatHoldsItsKey();
         weakAfterSoft();
+        againAndAgain();
         CHECK.end();
     }
 
@@ -188,5 +189,18 @@ public final class Promise12CollectTest {
         CHECK.same("a kept soft value holds a weak key", Check.row(x, Check.WEAK), "1=2");
         x.collect(3);
         CHECK.same("it holds it no more", Check.row(x, Check.WEAK) + " " + Check.living(x), " 0 2");
+    }
+
+    private static void againAndAgain() {
+        HoldMaps x = Check.withNumbers(32);
+        for (int i = 0; i < 31; i++) {
+            x.refer(i, 0, i + 1);
+        }
+        x.root(0, true);
+        for (int i = 0; i < 40; i++) {
+            CHECK.same("all are held, time " + i, x.collect(i % 4), 0);
+        }
+        x.refer(15, 0, Check.NONE);
+        CHECK.same("the half behind the gap", x.collect(0) + " " + x.count(0) + " " + x.count(1), "16 16 16");
     }
 }
