@@ -1,4 +1,6 @@
-/** What the tests share: comparing, counting what is wrong, and telling a whole state as a text. */
+import java.util.stream.IntStream;
+
+/** What the tests share: a test for each sentence, comparing, and telling parts of a state as a text. */
 final class Check {
     interface Call {
         long run();
@@ -9,38 +11,43 @@ final class Check {
     static final int IDENTITY = 2;
     static final int PLACES = 3;
     static final int LATEST = 4;
+    static final int MAPS = 5;
     static final int NONE = HoldMaps.NONE;
 
-    private static final Class<IllegalArgumentException> ARGUMENT = IllegalArgumentException.class;
-    private static final Class<IllegalStateException> STATE = IllegalStateException.class;
-    private static final Class<java.util.NoSuchElementException> ELEMENT = java.util.NoSuchElementException.class;
-
+    private String sentence = "";
     private int wrong = 0;
 
-    void same(String what, Object got, Object want) {
-        if (!got.equals(want)) {
-            wrong++;
-            System.out.println(what + ": got " + got + ", due is " + want);
+    /** A test that is one sentence's own; whatever it finds wrong is told with the sentence before it. */
+    void sentence(String words, Runnable test) {
+        sentence = words;
+        try {
+            test.run();
+        } catch (RuntimeException e) {
+            tell("it threw " + e);
         }
     }
 
-    void badArgument(String what, HoldMaps x, Call call) {
-        refuses(what, x, ARGUMENT, call);
+    void same(String what, Object got, Object due) {
+        if (!got.equals(due)) {
+            tell(what + ": got " + got + ", due is " + due);
+        }
     }
 
-    void badState(String what, HoldMaps x, Call call) {
-        refuses(what, x, STATE, call);
+    private void tell(String what) {
+        wrong++;
+        System.out.println("\"" + sentence + "\": " + what);
     }
 
-    void noElement(String what, HoldMaps x, Call call) {
-        refuses(what, x, ELEMENT, call);
+    void badArgument(String what, Call call) {
+        same(what, answer(call), "IllegalArgumentException");
     }
 
-    /** A call that is refused must throw just that exception, and change nothing. */
-    private void refuses(String what, HoldMaps x, Class<?> due, Call call) {
-        String before = state(x);
-        same(what, answer(call), due.getSimpleName());
-        same(what + " leaves the state", state(x), before);
+    void badState(String what, Call call) {
+        same(what, answer(call), "IllegalStateException");
+    }
+
+    void noElement(String what, Call call) {
+        same(what, answer(call), "NoSuchElementException");
     }
 
     /** What a call answers, or the name of what it throws. */
@@ -50,6 +57,13 @@ final class Check {
         } catch (RuntimeException e) {
             return e.getClass().getSimpleName();
         }
+    }
+
+    /** Numbers that are not 0 .. n - 1: next to it, far away, and such as a mask or a cast would bring back. */
+    static int[] outside(int n) {
+        int[] all = {Integer.MIN_VALUE, Integer.MIN_VALUE + 1, -65536, -256, -n, -2, -1, n, n + 1, 32, 64, 128, 256,
+            65536, Integer.MAX_VALUE};
+        return IntStream.of(all).filter(i -> i < 0 || i >= n).distinct().toArray();
     }
 
     /** Makes objects with these values; on a new object they get the numbers 0, 1, .. */
@@ -63,11 +77,7 @@ final class Check {
 
     /** The objects numbered 0 .. n - 1, with these numbers as their values. */
     static HoldMaps withNumbers(int n) {
-        int[] values = new int[n];
-        for (int i = 0; i < n; i++) {
-            values[i] = i;
-        }
-        return with(values);
+        return with(IntStream.range(0, n).toArray());
     }
 
     /** Puts keys with one value each, the same for all. */
@@ -77,11 +87,34 @@ final class Check {
         }
     }
 
+    /** Makes roots of all these. */
+    static void rootAll(HoldMaps x, int... objects) {
+        for (int object : objects) {
+            x.root(object, true);
+        }
+    }
+
+    /** Gets of SOFT that find nothing, so that all its entries grow older. */
+    static void age(HoldMaps x, int noKey, int times) {
+        for (int i = 0; i < times; i++) {
+            x.get(SOFT, noKey);
+        }
+    }
+
     /** The keys that a map's row has, by entry(). */
     static String keys(HoldMaps x, int map) {
         StringBuilder text = new StringBuilder();
         for (int k = 0; k < x.size(map); k++) {
             text.append(k == 0 ? "" : " ").append(x.entry(map, k, 0));
+        }
+        return text.toString();
+    }
+
+    /** The VALUES of the keys that a map's row has. */
+    static String keyValues(HoldMaps x, int map) {
+        StringBuilder text = new StringBuilder();
+        for (int k = 0; k < x.size(map); k++) {
+            text.append(k == 0 ? "" : " ").append(x.value(x.entry(map, k, 0)));
         }
         return text.toString();
     }
@@ -106,23 +139,19 @@ final class Check {
         return text.toString();
     }
 
-    /** All that can be asked without leaving a trace. */
-    static String state(HoldMaps x) {
+    static String counts(HoldMaps x) {
+        return x.count(0) + " " + x.count(1) + " " + x.count(2) + " " + x.count(3);
+    }
+
+    /** What the steps of a map answer, with the exception that ends them. */
+    static String steps(HoldMaps x, int map) {
         StringBuilder text = new StringBuilder();
-        for (int object = 0; object < 32; object++) {
-            if (x.value(object) != NONE) {
-                text.append(object).append(':').append(x.value(object));
-                text.append(isRoot(x, object) ? "!" : "").append(reference(x, object, 0));
-                text.append('/').append(reference(x, object, 1)).append(' ');
-            }
+        String step = answer(() -> x.step(map));
+        for (int i = 0; i < 40 && !step.endsWith("Exception"); i++) {
+            text.append(step).append(' ');
+            step = answer(() -> x.step(map));
         }
-        for (int map = 0; map < 5; map++) {
-            text.append('[').append(row(x, map)).append(']');
-        }
-        for (int what = 0; what < 4; what++) {
-            text.append(' ').append(x.count(what));
-        }
-        return text.toString();
+        return text.append(step).toString();
     }
 
     static boolean isRoot(HoldMaps x, int object) {

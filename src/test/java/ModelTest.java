@@ -1,16 +1,20 @@
 /** Long runs of calls, the same ones each time, on the program and on the model. */
 public final class ModelTest {
-    private static final int RUNS = 3000;
+    private static final int RUNS = 8000;
+    /** More are not promised. */
     private static final int CALLS = 512;
+    /** So many leave room to look at the whole state. */
+    private static final int CALLS_BEFORE_STATE = 250;
 
     private final HoldMaps program = new HoldMaps();
     private final Model model = new Model();
     private final int taste;
     private long seed;
+    private int calls = 0;
 
     private ModelTest(int run) {
         seed = run * 7919L + 13;
-        taste = run % 6;
+        taste = run / 2 % 6;
     }
 
     public static void main(String[] args) {
@@ -22,13 +26,19 @@ public final class ModelTest {
     }
 
     private void go(Check check, int run) {
-        for (int i = 0; i < CALLS; i++) {
-            String wrong = oneCall();
-            if (wrong != null) {
-                check.same("run " + run + ", call " + i, wrong, "the same answers");
-                return;
-            }
+        boolean looksAtState = run % 2 == 0;
+        int most = looksAtState ? CALLS_BEFORE_STATE : CALLS;
+        String wrong = null;
+        while (calls < most && wrong == null) {
+            wrong = oneCall();
         }
+        if (looksAtState && wrong == null) {
+            wrong = sameState();
+        }
+        if (wrong != null) {
+            check.same("run " + run + ", call " + calls, wrong, "the same answers");
+        }
+        check.same("calls of run " + run, calls <= CALLS, true);
     }
 
     private int random(int bound) {
@@ -89,16 +99,30 @@ public final class ModelTest {
             case 19: case 20: case 21:
                 return compare("step " + map, () -> program.step(map), () -> model.step(map));
             case 22:
-                return random(4) == 0 ? collect() : sameState();
+                return random(3) == 0 ? collect() : look(map);
             default:
-                return compare("value " + a, () -> program.value(a), () -> model.value(a));
+                return random(2) == 0 ? look(map)
+                        : compare("value " + a, () -> program.value(a), () -> model.value(a));
         }
     }
 
     private String collect() {
         int pressure = random(20) == 0 ? random(7) - 2 : random(4);
-        String wrong = compare("collect " + pressure, () -> program.collect(pressure), () -> model.collect(pressure));
-        return wrong != null ? wrong : sameState();
+        return compare("collect " + pressure, () -> program.collect(pressure), () -> model.collect(pressure));
+    }
+
+    private String look(int map) {
+        int k = random(6) == 0 ? random(40) - 4 : random(Math.max(1, model.size(map)));
+        int what = random(20) == 0 ? random(6) - 1 : random(2);
+        switch (random(6)) {
+            case 0:
+                return compare("size " + map, () -> program.size(map), () -> model.size(map));
+            case 1:
+                return compare("count " + k % 5, () -> program.count(k % 5), () -> model.count(k % 5));
+            default:
+                return compare("entry " + map + " " + k + " " + what,
+                        () -> program.entry(map, k, what), () -> model.entry(map, k, what));
+        }
     }
 
     private String sameState() {
@@ -130,7 +154,8 @@ public final class ModelTest {
         return wrong;
     }
 
-    private static String compare(String what, Check.Call program, Check.Call model) {
+    private String compare(String what, Check.Call program, Check.Call model) {
+        calls++;
         String got = Check.answer(program);
         String due = Check.answer(model);
         return got.equals(due) ? null : what + " answered " + got + ", the model " + due;

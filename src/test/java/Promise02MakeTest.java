@@ -1,31 +1,66 @@
 public final class Promise02MakeTest {
-    public static void main(String[] args) {
-        Check check = new Check();
-        HoldMaps x = new HoldMaps();
-        check.badArgument("-1", x, () -> x.make(-1));
-        check.badArgument("100", x, () -> x.make(100));
-        check.badArgument("the least int", x, () -> x.make(Integer.MIN_VALUE));
-        check.badArgument("the greatest int", x, () -> x.make(Integer.MAX_VALUE));
-        check.same("lowest value", x.make(0), 0);
-        check.same("highest value", x.make(99), 1);
-        check.same("the values", x.value(0) + " " + x.value(1), "0 99");
-        for (int i = 2; i < 32; i++) {
-            check.same("object " + i, x.make(i), i);
-        }
-        check.badState("a 33rd", x, () -> x.make(5));
-        check.badArgument("a wrong value counts before a full room", x, () -> x.make(100));
+    private static final Check CHECK = new Check();
 
-        for (int i = 0; i < 32; i++) {
-            x.root(i, i != 4 && i != 20);
+    public static void main(String[] args) {
+        CHECK.sentence("A new object: its number", Promise02MakeTest::aNewObject);
+        CHECK.sentence("a new object where another one was", Promise02MakeTest::whereAnotherOneWas);
+        CHECK.sentence("IllegalArgumentException: value is not 0 .. 99", Promise02MakeTest::wrongValues);
+        CHECK.sentence("IllegalStateException: there are 32", Promise02MakeTest::thereAre32);
+        CHECK.sentence("IllegalArgumentException, IllegalStateException", Promise02MakeTest::bothAreWrong);
+        CHECK.end();
+    }
+
+    private static void aNewObject() {
+        HoldMaps x = new HoldMaps();
+        for (int number = 0; number < 32; number++) {
+            CHECK.same("its number", x.make(99 - number), number);
+            CHECK.same("its value", x.value(number), 99 - number);
+            CHECK.same("how many", x.count(0), number + 1);
         }
-        x.refer(4, 0, 5);
-        x.refer(4, 1, 4);
-        check.same("two are collected", x.collect(0), 2);
-        check.same("lowest free number", x.make(50), 4);
-        check.same("what it was before is gone", Check.reference(x, 4, 0) + " " + Check.reference(x, 4, 1)
-                + " " + Check.isRoot(x, 4) + " " + x.value(4), "-1 -1 false 50");
-        check.same("next free number", x.make(51), 20);
-        check.badState("full again", x, () -> x.make(52));
-        check.end();
+        CHECK.same("a reference, another one, a root", x.refer(31, 0, 0) + " " + x.refer(31, 1, 0) + " "
+                + x.root(31, true), "-1 -1 false");
+    }
+
+    private static void whereAnotherOneWas() {
+        HoldMaps x = Check.with(10, 11, 12);
+        x.refer(1, 0, 2);
+        x.refer(1, 1, 1);
+        x.root(1, true);
+        x.root(1, false);
+        x.put(Check.WEAK, 1, 0);
+        CHECK.same("two go", x.collect(0), 2);
+        CHECK.same("its number", x.make(11), 1);
+        CHECK.same("no references", x.refer(1, 0, Check.NONE) + " " + x.refer(1, 1, Check.NONE), "-1 -1");
+        CHECK.same("no root", x.root(1, false), false);
+        CHECK.same("no key of an entry", x.get(Check.WEAK, 1), Check.NONE);
+    }
+
+    private static void wrongValues() {
+        HoldMaps x = new HoldMaps();
+        for (int value : Check.outside(100)) {
+            CHECK.badArgument("value " + value, () -> x.make(value));
+        }
+        CHECK.same("none was made", x.count(0), 0);
+        CHECK.same("the lowest one", x.make(0), 0);
+        CHECK.same("the highest one", x.make(99), 1);
+    }
+
+    private static void thereAre32() {
+        HoldMaps x = Check.withNumbers(31);
+        CHECK.same("the 32nd", x.make(99), 31);
+        CHECK.badState("a 33rd", () -> x.make(0));
+        CHECK.badState("and again", () -> x.make(99));
+        CHECK.same("there are still 32", x.count(0), 32);
+        Check.rootAll(x, 0, 1, 2, 3, 4, 5, 6, 7, 8, 9, 10, 11, 12, 13, 14, 15, 16, 17, 18, 19, 20, 21, 22, 23, 24, 25,
+                26, 27, 28, 29, 31);
+        x.collect(0);
+        CHECK.same("room for one", x.make(5), 30);
+        CHECK.badState("and no more", () -> x.make(5));
+    }
+
+    private static void bothAreWrong() {
+        HoldMaps x = Check.withNumbers(32);
+        CHECK.badArgument("too small", () -> x.make(-1));
+        CHECK.badArgument("too large", () -> x.make(100));
     }
 }

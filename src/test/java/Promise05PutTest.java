@@ -1,125 +1,142 @@
-/** How entries come, and how they lie then. */
+/** How put answers; how the entries lie then is tested with the terms. */
 public final class Promise05PutTest {
     private static final Check CHECK = new Check();
 
     public static void main(String[] args) {
-        wrongArguments();
-        sameKeys();
-        weakBuckets();
-        softOrder();
-        identitySlots();
-        identityIsFull();
-        placesByNumber();
-        latestKeepsSix();
+        CHECK.sentence("Puts an entry", Promise05PutTest::putsAnEntry);
+        CHECK.sentence("the value that the key had, or NONE", Promise05PutTest::valueThatTheKeyHad);
+        CHECK.sentence("no such map", Promise05PutTest::noSuchMap);
+        CHECK.sentence("no such key", Promise05PutTest::noSuchKey);
+        CHECK.sentence("no such value", Promise05PutTest::noSuchValue);
+        CHECK.sentence("PLACES' key is not as said", Promise05PutTest::placesKeyIsNotAsSaid);
+        CHECK.sentence("IDENTITY has 12 entries", Promise05PutTest::identityHas12);
+        CHECK.sentence("none with this key", Promise05PutTest::noneWithThisKey);
+        CHECK.sentence("IllegalArgumentException, IllegalStateException", Promise05PutTest::bothAreWrong);
+        CHECK.sentence("IllegalStateException: IDENTITY alone", Promise05PutTest::othersAreNeverFull);
         CHECK.end();
     }
 
-    private static void wrongArguments() {
-        HoldMaps x = Check.withNumbers(9);
-        int[] noMaps = {-1, 5, Integer.MIN_VALUE, Integer.MAX_VALUE};
-        for (int map : noMaps) {
-            CHECK.badArgument("no map " + map, x, () -> x.put(map, 0, 0));
-        }
-        int[] noObjects = {-1, -2, 9, 31, 32, Integer.MIN_VALUE, Integer.MAX_VALUE};
-        for (int object : noObjects) {
-            for (int map = 0; map < 5; map++) {
-                int m = map;
-                CHECK.badArgument("no key " + object, x, () -> x.put(m, object, 0));
-                CHECK.badArgument("no value " + object, x, () -> x.put(m, 0, object));
+    private static void putsAnEntry() {
+        for (int map = 0; map < Check.MAPS; map++) {
+            HoldMaps x = Check.withNumbers(32);
+            x.put(map, 7, 31);
+            x.put(map, 0, 0);
+            String first = map == Check.WEAK || map == Check.IDENTITY || map == Check.PLACES ? "0=0 7=31" : "7=31 0=0";
+            CHECK.same("map " + map, Check.row(x, map), first);
+            for (int other = 0; other < Check.MAPS; other++) {
+                CHECK.same("map " + other + " after put into " + map, x.size(other), other == map ? 2 : 0);
             }
         }
-        CHECK.badArgument("PLACES has no 8", x, () -> x.put(Check.PLACES, 8, 0));
-        CHECK.same("PLACES has a 7", x.put(Check.PLACES, 7, 0), Check.NONE);
-        CHECK.same("a value may be above 7", x.put(Check.PLACES, 7, 8), 0);
     }
 
-    /** Objects 0 and 1 are equal; an entry that is there leaves its key, and gets the new value. */
-    private static void sameKeys() {
-        for (int map = 0; map < 5; map++) {
-            HoldMaps x = Check.with(5, 5, 6);
-            CHECK.same("first put", x.put(map, 0, 2), Check.NONE);
-            CHECK.same("put again", x.put(map, 0, 1), 2);
-            boolean one = map == Check.IDENTITY;
-            CHECK.same("an equal key in map " + map, x.put(map, 1, 0), one ? Check.NONE : 1);
-            CHECK.same("size of map " + map, x.size(map), one ? 2 : 1);
-            String row = map == Check.PLACES ? "5=0" : "0=0";
-            CHECK.same("row of map " + map, Check.row(x, map), one ? "0=1 1=0" : row);
-            CHECK.same("the other maps", x.size(0) + x.size(1) + x.size(2) + x.size(3) + x.size(4), one ? 2 : 1);
+    private static void valueThatTheKeyHad() {
+        for (int map = 0; map < Check.MAPS; map++) {
+            HoldMaps x = Check.withNumbers(32);
+            CHECK.same("an empty map " + map, x.put(map, 0, 0), Check.NONE);
+            CHECK.same("another key, map " + map, x.put(map, 1, 31), Check.NONE);
+            CHECK.same("the lowest value, map " + map, x.put(map, 0, 31), 0);
+            CHECK.same("the highest value, map " + map, x.put(map, 0, 31), 31);
+            CHECK.same("its value, not another key's, map " + map, x.put(map, 1, 5), 31);
+            x.remove(map, 0);
+            CHECK.same("a key that went, map " + map, x.put(map, 0, 4), Check.NONE);
         }
     }
 
-    private static void weakBuckets() {
-        HoldMaps x = Check.with(0, 4, 8, 3, 16, 17, 33);
-        Check.putAll(x, Check.WEAK, 0, 0, 1, 2);
-        CHECK.same("last in a bucket first", Check.keys(x, Check.WEAK) + " of " + x.count(2), "2 1 0 of 4");
-        x.put(Check.WEAK, 1, 1);
-        CHECK.same("an old key does not move", Check.row(x, Check.WEAK) + " of " + x.count(2), "2=0 1=1 0=0 of 4");
-        x.put(Check.WEAK, 3, 0);
-        CHECK.same("doubled at four", Check.keys(x, Check.WEAK) + " of " + x.count(2), "0 2 3 1 of 8");
-        Check.putAll(x, Check.WEAK, 0, 4, 5);
-        CHECK.same("not doubled at six", Check.keys(x, Check.WEAK) + " of " + x.count(2), "5 0 2 4 3 1 of 8");
-        x.put(Check.WEAK, 6, 0);
-        CHECK.same("doubled at seven", Check.keys(x, Check.WEAK) + " of " + x.count(2), "0 5 4 3 6 1 2 of 16");
-
-        HoldMaps y = Check.withNumbers(32);
-        StringBuilder buckets = new StringBuilder();
-        for (int key = 0; key < 32; key++) {
-            y.put(Check.WEAK, key, key);
-            buckets.append(y.count(2)).append(' ');
+    private static void noSuchMap() {
+        HoldMaps x = Check.withNumbers(2);
+        for (int map : Check.outside(Check.MAPS)) {
+            CHECK.badArgument("map " + map, () -> x.put(map, 0, 1));
         }
-        String due = "4 ".repeat(3) + "8 ".repeat(3) + "16 ".repeat(6) + "32 ".repeat(20);
-        CHECK.same("doubled up to 32", buckets.toString(), due);
     }
 
-    private static void softOrder() {
-        HoldMaps x = Check.withNumbers(6);
-        Check.putAll(x, Check.SOFT, 0, 3, 1, 5, 2);
-        x.put(Check.SOFT, 1, 4);
-        CHECK.same("as they came", Check.row(x, Check.SOFT), "3=0 1=4 5=0 2=0");
-        CHECK.same("puts are counted", x.count(3), 5);
+    private static void noSuchKey() {
+        for (int map = 0; map < Check.MAPS; map++) {
+            HoldMaps x = Check.withNumbers(3);
+            int m = map;
+            for (int key : Check.outside(3)) {
+                CHECK.badArgument("key " + key + ", map " + map, () -> x.put(m, key, 1));
+            }
+            x.root(1, true);
+            x.collect(0);
+            CHECK.badArgument("a collected key, map " + map, () -> x.put(m, 2, 1));
+            CHECK.same("no entry came, map " + map, x.size(map), 0);
+        }
     }
 
-    /** First slots: 0, 1, 2, .. have 0, 7, 14, 5, 12, 3, 10, 1, 8, 15, 6, 13, 4, 11, 2, 9, and so on again. */
-    private static void identitySlots() {
-        HoldMaps x = Check.withNumbers(32);
-        Check.putAll(x, Check.IDENTITY, 0, 9, 2, 7, 0);
-        CHECK.same("by slots", Check.keys(x, Check.IDENTITY), "0 7 2 9");
-        x.put(Check.IDENTITY, 25, 1);
-        CHECK.same("behind 15 comes 0, then the first free one", Check.keys(x, Check.IDENTITY), "0 7 25 2 9");
-        x.put(Check.IDENTITY, 18, 1);
-        CHECK.same("and 14 goes round too", Check.keys(x, Check.IDENTITY), "0 7 25 18 2 9");
+    private static void noSuchValue() {
+        for (int map = 0; map < Check.MAPS; map++) {
+            HoldMaps x = Check.withNumbers(3);
+            int m = map;
+            x.root(0, true);
+            for (int value : Check.outside(3)) {
+                CHECK.badArgument("value " + value + ", map " + map, () -> x.put(m, 0, value));
+            }
+            x.put(map, 0, 0);
+            CHECK.badArgument("no value for a key that is there, map " + map, () -> x.put(m, 0, Check.NONE));
+            x.collect(0);
+            CHECK.badArgument("a collected value, map " + map, () -> x.put(m, 0, 2));
+            CHECK.same("it keeps its value, map " + map, Check.row(x, map), "0=0");
+        }
     }
 
-    private static void identityIsFull() {
-        HoldMaps x = Check.withNumbers(14);
-        Check.putAll(x, Check.IDENTITY, 13, 0, 1, 2, 3, 4, 5, 6, 7, 8, 9, 10);
-        CHECK.same("a 12th", x.put(Check.IDENTITY, 11, 13), Check.NONE);
-        CHECK.badState("a 13th", x, () -> x.put(Check.IDENTITY, 12, 0));
-        CHECK.badArgument("no value counts before a full map", x, () -> x.put(Check.IDENTITY, 12, 14));
-        CHECK.same("a key that is there", x.put(Check.IDENTITY, 11, 1), 13);
+    private static void placesKeyIsNotAsSaid() {
+        HoldMaps x = Check.with(7, 8, 99, 0, 15, 16);
+        for (int key : new int[] {1, 2, 4, 5}) {
+            CHECK.badArgument("a key's value " + x.value(key), () -> x.put(Check.PLACES, key, 0));
+            for (int map : new int[] {Check.WEAK, Check.SOFT, Check.IDENTITY, Check.LATEST}) {
+                CHECK.same("map " + map + " takes it", x.put(map, key, 0), Check.NONE);
+            }
+        }
+        CHECK.same("7", x.put(Check.PLACES, 0, 2), Check.NONE);
+        CHECK.same("0", x.put(Check.PLACES, 3, 1), Check.NONE);
+        CHECK.same("values of entries may be above 7", Check.row(x, Check.PLACES), "0=1 7=2");
+    }
+
+    private static HoldMaps identityWith12() {
+        HoldMaps x = Check.withNumbers(16);
+        Check.putAll(x, Check.IDENTITY, 15, 0, 1, 2, 3, 4, 5, 6, 7, 8, 9, 10);
+        CHECK.same("a 12th", x.put(Check.IDENTITY, 11, 15), Check.NONE);
+        return x;
+    }
+
+    private static void identityHas12() {
+        HoldMaps x = identityWith12();
+        CHECK.badState("a 13th", () -> x.put(Check.IDENTITY, 12, 0));
+        CHECK.badState("another 13th", () -> x.put(Check.IDENTITY, 15, 15));
+        CHECK.same("there are 12", x.size(Check.IDENTITY), 12);
         x.remove(Check.IDENTITY, 0);
         CHECK.same("room again", x.put(Check.IDENTITY, 12, 0), Check.NONE);
-        CHECK.same("twelve", x.size(Check.IDENTITY), 12);
+        CHECK.badState("and no more room", () -> x.put(Check.IDENTITY, 0, 0));
+        CHECK.same("other maps have room", x.put(Check.WEAK, 13, 0) + x.put(Check.SOFT, 13, 0)
+                + x.put(Check.LATEST, 13, 0), -3);
     }
 
-    private static void placesByNumber() {
-        HoldMaps x = Check.with(7, 0, 3, 3, 5, 99);
-        Check.putAll(x, Check.PLACES, 5, 0, 2, 1, 4);
-        CHECK.same("an equal key", x.put(Check.PLACES, 3, 0), 5);
-        CHECK.same("by number", Check.row(x, Check.PLACES), "0=5 3=0 5=5 7=5");
+    private static void noneWithThisKey() {
+        HoldMaps x = identityWith12();
+        for (int key = 0; key < 12; key++) {
+            CHECK.same("key " + key, x.put(Check.IDENTITY, key, key), 15);
+        }
+        HoldMaps y = Check.with(5, 5, 5, 5, 5, 5, 5, 5, 5, 5, 5, 5, 5);
+        Check.putAll(y, Check.IDENTITY, 0, 0, 1, 2, 3, 4, 5, 6, 7, 8, 9, 10, 11);
+        CHECK.badState("an equal object is not this key", () -> y.put(Check.IDENTITY, 12, 0));
     }
 
-    private static void latestKeepsSix() {
-        HoldMaps x = Check.with(10, 11, 12, 13, 14, 15, 16, 17, 11);
-        Check.putAll(x, Check.LATEST, 0, 0, 1, 2, 3, 4, 5);
-        CHECK.same("six", Check.keys(x, Check.LATEST), "0 1 2 3 4 5");
-        CHECK.same("an equal key is used", x.put(Check.LATEST, 8, 7), 0);
-        CHECK.same("and keeps its key", Check.row(x, Check.LATEST), "0=0 2=0 3=0 4=0 5=0 1=7");
-        x.put(Check.LATEST, 6, 0);
-        CHECK.same("the first one goes", Check.keys(x, Check.LATEST), "2 3 4 5 1 6");
-        x.put(Check.LATEST, 2, 0);
-        x.put(Check.LATEST, 7, 0);
-        CHECK.same("what was used stays", Check.keys(x, Check.LATEST), "4 5 1 6 2 7");
-        CHECK.same("others are not counted in TIME", x.count(3), 0);
+    private static void bothAreWrong() {
+        HoldMaps x = identityWith12();
+        CHECK.badArgument("no such value", () -> x.put(Check.IDENTITY, 12, 16));
+        CHECK.badArgument("no such key", () -> x.put(Check.IDENTITY, 16, 0));
+    }
+
+    private static void othersAreNeverFull() {
+        HoldMaps x = Check.withNumbers(32);
+        for (int key = 0; key < 32; key++) {
+            CHECK.same("a key into WEAK, SOFT and LATEST", x.put(Check.WEAK, key, 0) + x.put(Check.SOFT, key, 0)
+                    + x.put(Check.LATEST, key, 0), -3);
+        }
+        for (int key = 0; key < 8; key++) {
+            CHECK.same("a key into PLACES", x.put(Check.PLACES, key, 0), Check.NONE);
+        }
+        CHECK.same("their sizes", x.size(Check.WEAK) + " " + x.size(Check.SOFT) + " " + x.size(Check.PLACES) + " "
+                + x.size(Check.LATEST), "32 32 8 6");
     }
 }
