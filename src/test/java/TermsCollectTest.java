@@ -97,7 +97,8 @@ public final class TermsCollectTest {
     private static void whatTheyReferTo() {
         for (int holder = 0; holder < 7; holder++) {
             HoldMaps x = Check.withNumbers(6);
-            int[] maps = {Check.IDENTITY, Check.IDENTITY, Check.LATEST, Check.LATEST, Check.PLACES, Check.WEAK, Check.SOFT};
+            int[] maps = {Check.IDENTITY, Check.IDENTITY, Check.LATEST, Check.LATEST, Check.PLACES, Check.WEAK,
+                Check.SOFT};
             boolean byKey = holder == 0 || holder == 2 || holder == 6;
             x.put(maps[holder], byKey ? 1 : 2, byKey ? 2 : 1);
             x.refer(1, 0, 4);
