@@ -324,15 +324,20 @@ public final class HoldMaps {
             int from = heldCount;
             mark(object);
             for (int i = from; i < OBJECTS && i < heldCount; i++) {
-                int[] references = things[heldOnes[i]].references;
+                markWhatItRefersTo(heldOnes[i]);
+            }
+        }
+
+        private void markWhatItRefersTo(int object) {
+            if (has(object)) {
                 for (int which = 0; which < REFERENCES; which++) {
-                    mark(references[which]);
+                    mark(things[object].references[which]);
                 }
             }
         }
 
         private void mark(int object) {
-            if (has(object) && !things[object].isHeld) {
+            if (has(object) && !things[object].isHeld && heldCount < OBJECTS) {
                 things[object].isHeld = true;
                 heldOnes[heldCount] = object;
                 heldCount++;
